@@ -207,15 +207,18 @@ public final class PageFormatter {
     }
 
     private void gatherWords(boolean underlined) {
-        int to;
-        for (int from = 0; from < entered.size; from = to + 1) {
-            to = entered.wordEnd(from);
+        int from = 0;
+        for (int to = 0; to <= entered.size; to++) {
+            if (to < entered.size && entered.byteAt(to) != BLANK) {
+                continue;
+            }
             if (entered.hasLetters(from, to)) {
                 if (paragraph.wordCount >= MAX_WORDS) {
                     breakParagraph();
                 }
                 paragraph.addWord(entered, from, to, underlined);
             }
+            from = to + 1;
         }
     }
 
@@ -223,7 +226,8 @@ public final class PageFormatter {
         if (paragraph.wordCount == 0) {
             return;
         }
-        parting.part(paragraph, layout.right - layout.thisIndent, layout.right - layout.indent);
+        parting.weighWays(paragraph, layout.right - layout.thisIndent, layout.right - layout.indent);
+        parting.takeBestWay(paragraph);
         int from = 0;
         for (int i = 0; i < parting.lineCount; i++) {
             boolean full = layout.justify && i < parting.lineCount - 1;
@@ -260,14 +264,6 @@ public final class PageFormatter {
         int passBlanks(int from) {
             int i = from;
             while (i < size && byteAt(i) == BLANK) {
-                i++;
-            }
-            return i;
-        }
-
-        int wordEnd(int from) {
-            int i = from;
-            while (i < size && byteAt(i) != BLANK) {
                 i++;
             }
             return i;
@@ -593,35 +589,31 @@ public final class PageFormatter {
             }
         }
 
-        private boolean isPlace(int place) {
-            return place >= 0 && place <= lastPlace;
-        }
-
-        private boolean isLine(int from, int to) {
-            return from >= 0 && from < to && to <= lastPlace;
-        }
-
+        /** No word ends at a hyphen point. */
         boolean isHyphen(int place) {
-            return place > 0 && isPlace(place) && wordsBefore[place] == wordsBefore[place - 1];
+            return place > 0 && place <= lastPlace && wordsBefore[place] == wordsBefore[place - 1];
         }
 
-        /** The words that end between the two places, each with a blank behind it. */
+        /** As many as words end between the two places. */
         int blanksIn(int from, int to) {
-            return isLine(from, to) ? wordsBefore[to - 1] - wordsBefore[from] : 0;
+            if (from < 0 || from >= to || to > lastPlace) {
+                return 0;
+            }
+            return wordsBefore[to - 1] - wordsBefore[from];
+        }
+
+        int lettersIn(int from, int to) {
+            if (from < 0 || from >= to || to > lastPlace) {
+                return 0;
+            }
+            return lettersBefore[to] - lettersBefore[from];
         }
 
         int lengthOf(int from, int to) {
-            if (!isLine(from, to)) {
-                return 0;
-            }
-            int hyphen = isHyphen(to) ? 1 : 0;
-            return lettersBefore[to] - lettersBefore[from] + blanksIn(from, to) + hyphen;
+            return lettersIn(from, to) + blanksIn(from, to) + (isHyphen(to) ? 1 : 0);
         }
 
         void write(Output output, int from, int to, int slack) {
-            if (!isLine(from, to)) {
-                return;
-            }
             int blanks = blanksIn(from, to);
             int k = 0;
             for (int place = from; place < to; place++) {
@@ -637,7 +629,7 @@ public final class PageFormatter {
         }
 
         private void writePiece(Output output, int place) {
-            if (!isLine(place, place + 1)) {
+            if (place < 0 || place >= lastPlace) {
                 return;
             }
             int word = wordsBefore[place];
@@ -678,7 +670,7 @@ public final class PageFormatter {
             return what >= 0 && what < FACTS ? facts[FACTS * i + what] : BAD;
         }
 
-        void part(Paragraph words, int roomOfFirst, int roomOfOthers) {
+        void weighWays(Paragraph words, int roomOfFirst, int roomOfOthers) {
             firstRoom = roomOfFirst;
             otherRoom = roomOfOthers;
             int last = Math.min(words.lastPlace, MAX_PLACES);
@@ -688,8 +680,21 @@ public final class PageFormatter {
             for (int from = last - 1; from >= 0; from--) {
                 weighLinesFrom(words, from, last);
             }
+        }
+
+        void takeBestWay(Paragraph words) {
+            int last = Math.min(words.lastPlace, MAX_PLACES);
+            int from = 0;
+            int kind = NO_LINE_BEFORE;
+            lineCount = 0;
             sum = leastCost[NO_LINE_BEFORE] / DEMERIT;
-            recordLines(words, last);
+            while (from >= 0 && from < last && lineCount < MAX_PLACES) {
+                int to = bestEnd[KINDS * from + kind];
+                recordLine(words, from, to, to == last);
+                kind = kindOf(facts[FACTS * lineCount + BADNESS]);
+                lineCount++;
+                from = to;
+            }
         }
 
         private int roomFrom(int place) {
@@ -756,19 +761,6 @@ public final class PageFormatter {
 
         private static int clash(int kind, int other) {
             return kind - other == 2 || other - kind == 2 ? 5000 : 0;
-        }
-
-        private void recordLines(Paragraph words, int last) {
-            int from = 0;
-            int kind = NO_LINE_BEFORE;
-            lineCount = 0;
-            while (from >= 0 && from < last && lineCount < MAX_PLACES) {
-                int to = bestEnd[KINDS * from + kind];
-                recordLine(words, from, to, to == last);
-                kind = kindOf(facts[FACTS * lineCount + BADNESS]);
-                lineCount++;
-                from = to;
-            }
         }
 
         private void recordLine(Paragraph words, int from, int to, boolean isLast) {
