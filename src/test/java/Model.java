@@ -4,8 +4,9 @@ import java.util.List;
 import java.util.Map;
 
 /**
- * The document once more, in other words: texts and lists, and every way to part
- * a PARAGRAPH looked at (from the front). ModelTest compares the class with it.
+ * The document once more, in other words: texts and lists. Every way to part a
+ * short PARAGRAPH is looked at, a longer one is weighed from the front.
+ * ModelTest compares the class with it.
  */
 final class Model {
     static final int NONE = -1, BAD = -2, FULL = -3;
