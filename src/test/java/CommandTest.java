@@ -1,135 +1,167 @@
-/** Promise 3, enter: the commands, their names, RESTS and NUMBERS. */
+/** Promise 3, enter: what a COMMAND is, its name, its REST and its NUMBER. */
 public final class CommandTest {
     public static void main(String[] args) {
-        namesAreTwoBytes();
+        aPointBegins();
+        names();
+        otherNames();
+        rests();
         numbers();
-        bounds();
+        fourDigits();
+        withoutADigit();
         breaks();
-        indents();
-        rightStaysAboveTheIndents();
-        headsAndFeet();
-        newPages();
+        switches();
         Check.end();
     }
 
     private static int counted(int what, String... lines) {
-        return Check.after(lines).count(what);
+        return Subject.after(lines).count(what);
     }
 
-    private static void namesAreTwoBytes() {
-        Check.same("other names", counted(14, ".", ".b", ".xx", ".BR", ". br", "..", ".r"), 7);
-        Check.same("known names", counted(14, ".br", ".fi", ".nf", ".ju", ".na", ".ls", ".in", ".ti", ".rm",
-                ".ce", ".ul", ".sp", ".bp", ".pl", ".he", ".fo"), 0);
-        Check.same("a blank before is TEXT", counted(14, " .xx"), 0);
-        Check.same("bytes right behind the name", counted(7, ".ls3"), 3);
-        Check.same("blanks passed over", counted(7, ".ls    4"), 4);
-        Check.same("passed over without a BREAK", Check.enterAll(new PageFormatter(), "word", ".xx"), 0);
-        Check.same("bytes behind br", Check.enterAll(new PageFormatter(), "word", ".broken"), 1);
+    private static void aPointBegins() {
+        Check.sentence("One that begins with a point is a COMMAND");
+        Check.same("a point", counted(14, ".xx"), 1);
+        String[] texts = {"-xx", "/xx", " .xx", "^.xx", "x.xx"};
+        for (String text : texts) {
+            Check.same("[" + text + "] passed over", counted(14, text), 0);
+            Check.same("[" + text + "] words", counted(0, text), 1);
+        }
+        Subject x = new Subject();
+        x.type(0x78782E01L, 4);
+        x.enter();
+        Check.same("behind a byte that is not taken", x.count(14), 1);
+        Check.same("an empty LINE is none", Subject.after(".xx").enter(), 1);
+    }
+
+    private static void names() {
+        Check.sentence("the two bytes behind the point are its name (fewer: none of these)");
+        String[] none = {".", ".b", ".Br", ".bR", ". br", ".aq", ".bq", ".bs", ".cr", ".rb", "..br"};
+        for (String line : none) {
+            Subject x = Subject.after(".br", "word", line);
+            Check.same("[" + line + "] passed over", x.count(14), 1);
+            Check.same("[" + line + "] words", x.count(0), 1);
+        }
+        String[] breaking = {".br", ".br ", ".brr", ".br.b", ".br 5"};
+        for (String line : breaking) {
+            Subject x = Subject.after("word", line);
+            Check.same("[" + line + "] passed over", x.count(14), 0);
+            Check.same("[" + line + "] lines", x.count(13), 1);
+        }
+        Check.same("all names", counted(14, ".br", ".fi", ".nf", ".ju", ".na", ".ls", ".in", ".ti", ".rm", ".ce",
+                ".ul", ".sp", ".bp", ".pl", ".he", ".fo"), 0);
+    }
+
+    private static void otherNames() {
+        Check.sentence("Other names: the LINE is passed over, and counted.");
+        Subject x = Subject.after(".ti 3", ".ce 2", ".ul 2", ".ti 3");
+        Check.same("lines PUT", x.enter(".xx 5"), 0);
+        Check.same("counted", x.count(14), 1);
+        Check.same("it is no TEXT", x.count(6) * 100 + x.count(8) * 10 + x.count(9), 322);
+        x.enterAll(".", ".b");
+        Check.same("counted then", x.count(14), 3);
+        Check.same("the LINE is empty then", x.count(16), 0);
+    }
+
+    private static String head(String... lines) {
+        Subject x = Subject.after(lines);
+        x.enter(".sp 0");
+        return x.output();
+    }
+
+    private static void rests() {
+        Check.sentence("behind these, blanks passed over, is its REST (up to the LINE'S end)");
+        Check.same("no blanks", head(".hea"), "\na\n\n");
+        Check.same("one blank", head(".he a"), "\na\n\n");
+        Check.same("many blanks", head(".he" + " ".repeat(96) + "a"), "\na\n\n");
+        Check.same("nothing", head(".he a", ".he"), "\n\n\n");
+        Check.same("blanks alone", head(".he a", ".he    "), "\n\n\n");
+        Check.same("97 blanks alone", head(".he a", ".he" + " ".repeat(97)), "\n\n\n");
+        Check.same("blanks inside and at the end", head(".he  a  b  "), "\na  b  \n\n");
+        Check.same("bytes ^ and points", head(".he ^.^"), "\n^.^\n\n");
+        Check.same("96 bytes", head(".he " + "h".repeat(96)), "\n" + "h".repeat(96) + "\n\n");
+        Check.same("97 bytes", head(".he" + "h".repeat(97)), "\n" + "h".repeat(97) + "\n\n");
+        Check.same("less than before", head(".he abcdef", ".he gh"), "\ngh\n\n");
+    }
+
+    /** PAGE LENGTH shows a NUMBER best: its default is 24, and it is 50 before. */
+    private static int pageLength(String rest) {
+        return counted(10, ".pl 50", ".pl " + rest);
     }
 
     private static void numbers() {
-        Check.same("plain", counted(7, ".ls 5"), 5);
-        Check.same("more", counted(7, ".ls 5", ".ls +3"), 8);
-        Check.same("less", counted(7, ".ls 5", ".ls -3"), 2);
-        Check.same("none", counted(7, ".ls 5", ".ls"), 1);
-        Check.same("no digit", counted(7, ".ls 5", ".ls x7"), 1);
-        Check.same("a sign alone", counted(7, ".ls 5", ".ls +"), 1);
-        Check.same("a blank behind the sign", counted(7, ".ls 5", ".ls + 2"), 1);
-        Check.same("two signs", counted(7, ".ls 5", ".ls ++2"), 1);
-        Check.same("what comes behind digits", counted(7, ".ls 3x9"), 3);
-        Check.same("four digits count", counted(4, ".rm 00456"), 45);
-        Check.same("zeros are digits", counted(4, ".rm 000070"), 1);
-        Check.same("further ones passed over", counted(3, ".bp 001234"), 12);
-        Check.same("four digits with a sign", counted(3, ".bp 100", ".bp -00501"), 50);
+        Check.sentence("A NUMBER is what the REST begins with: perhaps + or -, then digits");
+        for (int digit = 0; digit <= 9; digit++) {
+            Check.same("digit " + digit, pageLength("3" + digit), 30 + digit);
+        }
+        Check.same("9 alone", pageLength("9"), 9);
+        Check.same("0 alone is a NUMBER", pageLength("0"), 8);
+        Check.same("+", pageLength("+9"), 59);
+        Check.same("-", pageLength("-9"), 41);
+        Check.same("+0", pageLength("+0"), 50);
+        Check.same("-0", pageLength("-0"), 50);
+        String[] before = {"/", ":", ",", "*", ".", "x", "(", "#"};
+        for (String b : before) {
+            Check.same("behind " + b, pageLength(b + "9"), 24);
+        }
+        String[] behind = {"/9", ":9", " 9", "+9", "-9", "x9", "."};
+        for (String b : behind) {
+            Check.same("before " + b, pageLength("33" + b), 33);
+        }
+        Check.same("right behind the name", counted(10, ".pl33"), 33);
+        Check.same("a sign right behind the name", counted(10, ".pl+3"), 27);
     }
 
-    private static void bounds() {
-        Check.same("ls least", counted(7, ".ls 0"), 1);
-        Check.same("ls most", counted(7, ".ls 10"), 9);
-        Check.same("ls below", counted(7, ".ls -9999"), 1);
-        Check.same("in most", counted(5, ".in 40"), 39);
-        Check.same("in least", counted(5, ".in 3", ".in -4"), 0);
-        Check.same("in none", counted(5, ".in 3", ".in"), 0);
-        Check.same("ti most", counted(6, ".rm 10", ".ti 99"), 9);
-        Check.same("rm most", counted(4, ".rm 81"), 80);
-        Check.same("rm least", counted(4, ".rm 0"), 1);
-        Check.same("rm none", counted(4, ".rm 60", ".rm"), 40);
-        Check.same("ce none", counted(8, ".ce"), 1);
-        Check.same("ce most", counted(8, ".ce 100"), 99);
-        Check.same("ce least", counted(8, ".ce 2", ".ce -3"), 0);
-        Check.same("ul none", counted(9, ".ul"), 1);
-        Check.same("ul most", counted(9, ".ul 98", ".ul +2"), 99);
-        Check.same("ul least", counted(9, ".ul 0"), 0);
-        Check.same("pl none", counted(10, ".pl 50", ".pl"), 24);
-        Check.same("pl least", counted(10, ".pl 7"), 8);
-        Check.same("pl most", counted(10, ".pl 100"), 99);
-        Check.same("bp most", counted(3, ".bp 1000"), 999);
-        Check.same("bp least", counted(3, ".bp 0"), 1);
+    private static void fourDigits() {
+        Check.sentence("then digits (at most 4 count, further ones are passed over)");
+        Check.same("3 digits", counted(3, ".bp 123"), 123);
+        Check.same("4 digits", counted(3, ".bp 0123"), 123);
+        Check.same("5 digits", counted(3, ".bp 01234"), 123);
+        Check.same("6 digits", counted(3, ".bp 001234"), 12);
+        Check.same("4 digits are many", counted(3, ".bp 1000"), 999);
+        Check.same("94 digits", counted(3, ".bp0007" + "9".repeat(93)), 7);
+        Check.same("+ and 3", counted(3, ".bp 100", ".bp +123"), 223);
+        Check.same("+ and 4", counted(3, ".bp 100", ".bp +0123"), 223);
+        Check.same("+ and 5", counted(3, ".bp 100", ".bp +01234"), 223);
+        Check.same("- and 4", counted(3, ".bp 100", ".bp -0012"), 88);
+        Check.same("- and 5", counted(3, ".bp 100", ".bp -00123"), 88);
+        Check.same("zeros count", counted(3, ".bp 100", ".bp 00005"), 1);
+    }
+
+    private static void withoutADigit() {
+        Check.sentence("without a digit there is none");
+        String[] none = {"", "+", "-", "+ 9", "- 9", "++9", "+-9", "-+9", "x", "+x9", "      "};
+        for (String rest : none) {
+            Check.same("[" + rest + "]", pageLength(rest), 24);
+        }
+        Check.same("nor one of the LINE before", counted(10, ".pl 51", ".pl 52", ".pl"), 24);
     }
 
     private static void breaks() {
+        Check.sentence("A BREAK parts the PARAGRAPH'S words into lines, if there are some");
         String[] breaking = {".br", ".fi", ".nf", ".ti", ".ce", ".ce 0", ".sp", ".sp 0", "", " ", " x"};
-        String[] others = {".ju", ".na", ".ls 2", ".in 2", ".rm 50", ".ul", ".pl 30", ".he h", ".fo f", ".zz", ".bp"};
-        for (String name : breaking) {
-            PageFormatter x = Check.after("word");
-            Check.enter(x, name);
-            Check.same(name + " parts", x.count(13), 1);
+        for (String line : breaking) {
+            Subject x = Subject.after("word");
+            x.enter(line);
+            Check.same("[" + line + "] parts", x.count(13), 1);
+            Check.same("[" + line + "] when there are none", Subject.after(line).count(13), 0);
         }
-        for (String name : others) {
-            PageFormatter x = Check.after("word");
-            Check.same(name + " puts", Check.enter(x, name), 0);
-            Check.same(name + " keeps", x.count(0), 1);
+        String[] others = {".ju", ".na", ".ls 2", ".in 2", ".rm 50", ".ul", ".pl 30", ".he h", ".fo f", ".zz", "x"};
+        for (String line : others) {
+            Subject x = Subject.after(".sp 0", "word");
+            Check.same("[" + line + "] puts", x.enter(line), 0);
+            Check.same("[" + line + "] parts", x.count(13), 0);
         }
-        Check.same("fi", counted(11, ".nf", ".fi"), 1);
+    }
+
+    private static void switches() {
+        Check.sentence("fi, nf: a BREAK, then FILL or not (at first FILL).");
         Check.same("nf", counted(11, ".nf"), 0);
-        Check.same("ju", counted(12, ".na", ".ju"), 1);
+        Check.same("nf twice", counted(11, ".nf", ".nf"), 0);
+        Check.same("fi", counted(11, ".nf", ".fi"), 1);
+        Check.same("fi twice", counted(11, ".fi", ".fi"), 1);
+        Check.sentence("ju, na: JUSTIFY or not (at first it does).");
         Check.same("na", counted(12, ".na"), 0);
-        Check.same("nothing to part", Check.enterAll(new PageFormatter(), ".br", ".fi"), 0);
-    }
-
-    private static void indents() {
-        PageFormatter x = Check.after(".in 4");
-        Check.same("in sets both", x.count(5) * 100 + x.count(6), 404);
-        Check.enter(x, ".ti +3");
-        Check.same("ti from THIS INDENT", x.count(5) * 100 + x.count(6), 407);
-        Check.enter(x, ".ti +3");
-        Check.same("ti again", x.count(6), 10);
-        Check.enter(x, ".in +1");
-        Check.same("in from INDENT", x.count(5) * 100 + x.count(6), 505);
-        Check.enterAll(x, ".ti", "a", ".br", "b", ".br");
-        Check.same("used once", Check.body(x), "a\n     b\n");
-        Check.same("THIS INDENT is INDENT then", x.count(6), 5);
-        PageFormatter y = Check.after(".in 4", "word", ".ti +2");
-        Check.same("ti behind its BREAK", Check.body(y) + y.count(6), "    word\n6");
-    }
-
-    private static void rightStaysAboveTheIndents() {
-        Check.same("above INDENT", counted(4, ".in 20", ".ti 5", ".rm 10"), 21);
-        Check.same("above THIS INDENT", counted(4, ".in 5", ".ti 30", ".rm 10"), 31);
-        Check.same("default below THIS INDENT", counted(4, ".rm 80", ".ti 60", ".rm"), 61);
-        Check.same("down", counted(4, ".rm 50", ".rm -20"), 30);
-        Check.same("up", counted(4, ".rm +20"), 60);
-    }
-
-    private static void headsAndFeet() {
-        PageFormatter x = Check.after(".pl 8", ".he   a#b ## ", ".fo-#-", ".bp 12", ".nf", "t", "u");
-        Check.same("texts", Check.output(x), "\na12b 1212 \n\nt\nu\n\n-12-\n\n");
-        Check.enterAll(x, ".he", "v");
-        Check.same("no REST", Check.output(x).substring(24), "\n\n\nv\n");
-    }
-
-    private static void newPages() {
-        PageFormatter x = Check.after(".pl 9", ".fo #", "word", ".bp 7");
-        Check.same("no page begun", x.length() * 100 + x.count(3), 7);
-        Check.enter(x, ".br");
-        Check.same("then a page", x.count(2) * 100 + x.count(3), 708);
-        Check.enter(x, "more");
-        Check.same("puts", Check.enter(x, ".bp"), 1);
-        Check.same("page is ended", Check.output(x), "\n\n\nword\nmore\n\n\n7\n\n");
-        Check.same("as it is", x.count(3), 8);
-        Check.enter(x, ".bp +5");
-        Check.same("ended already", x.length() * 100 + x.count(3), 1813);
-        Check.enter(x, ".bp -3");
-        Check.same("less", x.count(3), 10);
+        Check.same("na twice", counted(12, ".na", ".na"), 0);
+        Check.same("ju", counted(12, ".na", ".ju"), 1);
+        Check.same("ju twice", counted(12, ".ju", ".ju"), 1);
     }
 }

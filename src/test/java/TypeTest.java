@@ -1,74 +1,110 @@
-/** Promise 2: type. */
+/** Promise 2, type, and which bytes a LINE takes. */
 public final class TypeTest {
+    private static final String EIGHT = "abcdefgh";
+
     public static void main(String[] args) {
-        takesTheLowestFirst();
-        refusesBadNumbers();
-        leavesOtherBytesOut();
-        isFullAboveAHundred();
+        theLowestFirst();
+        wrongNumbers();
+        bytesThatAreTaken();
+        full();
+        fullByBytesNotTaken();
+        aHundredComeIn();
         Check.end();
     }
 
-    private static void takesTheLowestFirst() {
-        PageFormatter x = new PageFormatter();
-        x.enter();
-        x.wipe();
-        Check.same("n = 3", x.type(Check.packed("abcdefgh"), 3), 3);
-        Check.same("n = 8", x.type(Check.packed("ABCDEFGH"), 8), 11);
-        Check.same("n = 1", x.type(Check.packed("z"), 1), 12);
-        Check.same("count(16)", x.count(16), 12);
-        x.enter();
-        Check.enter(x, ".br");
-        Check.same("bytes", Check.output(x), "abcABCDEFGHz\n");
-        Check.same("count(16) then", x.count(16), 0);
+    private static Subject withBytes(int n) {
+        Subject x = new Subject();
+        x.type("x".repeat(n));
+        return x;
     }
 
-    private static void refusesBadNumbers() {
-        PageFormatter x = new PageFormatter();
-        int[] bad = {0, -1, 9, Integer.MAX_VALUE, Integer.MIN_VALUE};
-        for (int n : bad) {
-            Check.same("type(.., " + n + ")", x.type(Check.packed("abcdefgh"), n), PageFormatter.BAD);
+    private static void theLowestFirst() {
+        Check.sentence("Up to eight bytes more of the LINE: of w the lowest n (1 .. 8), the lowest first");
+        for (int n = 1; n <= 8; n++) {
+            Subject x = new Subject();
+            Check.same("n = " + n, x.type(Subject.packed(EIGHT), n), n);
+            Check.same("count(16)", x.count(16), n);
+            Check.same("n = 2 then", x.type(Subject.packed("YZ"), 2), n + 2);
+            x.enter();
+            Check.same("count(16) behind enter()", x.count(16), 0);
+            x.enter(".br");
+            Check.same("bytes", x.body(), EIGHT.substring(0, n) + "YZ\n");
         }
-        Check.same("nothing came", x.count(16), 0);
-        for (int i = 0; i < 12; i++) {
-            x.type(Check.packed("abcdefgh"), 8);
-        }
-        Check.same("BAD stands before FULL", x.type(0, 9), PageFormatter.BAD);
+        Check.same("a w below 0", new Subject().type(Long.MIN_VALUE | 'q', 1), 1);
     }
 
-    private static void leavesOtherBytesOut() {
-        PageFormatter x = new PageFormatter();
-        for (int b = 0; b < 256; b++) {
-            int before = x.count(16);
-            int taken = b >= 32 && b <= 126 ? 1 : 0;
-            if (before == 100) {
-                x.enter();
-                before = 0;
+    private static void wrongNumbers() {
+        Check.sentence("BAD: n; FULL, and none comes");
+        int[] bad = {0, -1, 9, 10, 64, Integer.MAX_VALUE, Integer.MIN_VALUE};
+        int[] sizes = {0, 92, 93, 99, 100};
+        for (int size : sizes) {
+            Subject x = withBytes(size);
+            for (int n : bad) {
+                Check.same("type(.., " + n + ")", x.type(Subject.packed(EIGHT), n), PageFormatter.BAD);
             }
-            Check.same("byte " + b, x.type(b, 1), before + taken);
+            Check.same("bytes then", x.count(16), size);
         }
-        PageFormatter y = new PageFormatter();
-        Check.same("some of eight", y.type(0x7F617E1F62800A20L, 8), 4);
-        Check.same("none of eight", y.type(-1L, 8), 4);
-        Check.same("all of w below", y.type(Long.MIN_VALUE | 'q', 1), 5);
-        y.enter();
-        Check.enter(y, ".br");
-        Check.same("order", Check.body(y), " b~aq\n");
     }
 
-    private static void isFullAboveAHundred() {
-        PageFormatter x = new PageFormatter();
-        for (int i = 1; i <= 12; i++) {
-            Check.same("filling", x.type(Check.packed("abcdefgh"), 8), 8 * i);
+    private static void bytesThatAreTaken() {
+        Check.sentence("126 (others are not taken).");
+        for (int place = 0; place < 8; place++) {
+            Subject x = new Subject();
+            for (int b = 0; b < 256; b++) {
+                int taken = b >= 32 && b <= 126 ? 1 : 0;
+                Check.same("byte " + b + " at " + place, x.type((long) b << 8 * place, 8), taken);
+                if (taken == 1) {
+                    x.enter();
+                }
+            }
         }
-        Check.same("101 with all", x.type(Check.packed("abcde"), 5), PageFormatter.FULL);
-        Check.same("101 with those not taken", x.type(0, 5), PageFormatter.FULL);
-        Check.same("none came", x.count(16), 96);
-        Check.same("100 with those not taken", x.type('i', 4), 97);
-        Check.same("100", x.type(Check.packed("jkl"), 3), 100);
-        Check.same("one more", x.type('m', 1), PageFormatter.FULL);
-        Check.same("one more that is not taken", x.type(0, 1), PageFormatter.FULL);
-        Check.same("still", x.count(16), 100);
-        x.enter();
-        Check.same("empty again", x.type('m', 1), 1);
+        Check.sentence("those taken that are 32 .. 126: how many it has.");
+        Subject y = new Subject();
+        Check.same("31, 32, 126, 127 among others", y.type(0x7F617E1F62800A20L, 8), 4);
+        Check.same("none of eight", y.type(-1L, 8), 4);
+        y.enter(".");
+        y.enter(".br");
+        Check.same("in their order", y.body(), " b~a.\n");
+    }
+
+    private static void full() {
+        Check.sentence("FULL, and none comes: it would have more than 100 with all n");
+        for (int n = 1; n <= 8; n++) {
+            Check.same("99 with n = " + n, withBytes(99 - n).type(Subject.packed(EIGHT), n), 99);
+            Check.same("100 with n = " + n, withBytes(100 - n).type(Subject.packed(EIGHT), n), 100);
+            Subject x = withBytes(101 - n);
+            Check.same("101 with n = " + n, x.type(Subject.packed(EIGHT), n), PageFormatter.FULL);
+            Check.same("none came", x.count(16), 101 - n);
+        }
+        Subject y = withBytes(100);
+        Check.same("one more", y.type('m', 1), PageFormatter.FULL);
+        y.enter();
+        Check.same("empty again", y.type('m', 1), 1);
+    }
+
+    private static void fullByBytesNotTaken() {
+        Check.sentence("it would have more than 100 with all n (also those that are not taken).");
+        for (int n = 1; n <= 8; n++) {
+            Check.same("100 with n = " + n, withBytes(100 - n).type(0, n), 100 - n);
+            Subject x = withBytes(101 - n);
+            Check.same("101 with n = " + n, x.type(0, n), PageFormatter.FULL);
+            Check.same("none came", x.count(16), 101 - n);
+        }
+        Subject y = withBytes(96);
+        Check.same("one of five", y.type(Subject.packed("i\0\0\0\0"), 5), PageFormatter.FULL);
+        Check.same("one of four", y.type(Subject.packed("\0\0\0i"), 4), 97);
+        Check.same("and three", y.type(Subject.packed("jkl"), 3), 100);
+        Check.same("one that is not taken", y.type(0, 1), PageFormatter.FULL);
+    }
+
+    private static void aHundredComeIn() {
+        Check.sentence("A LINE has up to 100 bytes, each 32 ..");
+        for (int n = 99; n <= 100; n++) {
+            Subject x = Subject.after(".nf");
+            String line = "x".repeat(n - 1) + "y";
+            Check.same("lines", x.enter(line), 1);
+            Check.same("bytes", x.body(), line + "\n");
+        }
+        Check.same("the 101st is refused by itself", withBytes(100).type('z', 1), PageFormatter.FULL);
     }
 }
