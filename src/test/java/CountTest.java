@@ -8,8 +8,9 @@ public final class CountTest {
     }
 
     private static void each() {
-        Check.sentence("What = 0 words of the PARAGRAPH that is gathered, 1 LINE NUMBER, 2 THE PAGE (0 before any HEAD),"
-                + " 3 THE NEXT PAGE, 4 RIGHT, 5 INDENT, 6 THIS INDENT, 7 SPACING, 8 CENTRED, 9 UNDERLINED");
+        Check.sentence("What = 0 words of the PARAGRAPH that is gathered, 1 LINE NUMBER, 2 THE PAGE"
+                + " (0 before any HEAD), 3 THE NEXT PAGE, 4 RIGHT, 5 INDENT, 6 THIS INDENT, 7 SPACING,"
+                + " 8 CENTRED, 9 UNDERLINED");
         Subject x = Subject.after(".rm 30", ".in 2", ".ls 3", ".pl 50", ".bp 6", ".zz", ".yy", "a b", ".br",
                 "   c d e", ".ul 4", ".na");
         x.type("typed");
@@ -20,8 +21,8 @@ public final class CountTest {
     }
 
     private static void others() {
-        Check.sentence("10 PAGE LENGTH, 11 FILL (1 or 0), 12 JUSTIFY (1 or 0), 13 lines of the latest PARAGRAPH that was"
-                + " parted, 14 LINES passed over for their name, 15 lines PUT, 16 bytes of the LINE.");
+        Check.sentence("10 PAGE LENGTH, 11 FILL (1 or 0), 12 JUSTIFY (1 or 0), 13 lines of the latest PARAGRAPH"
+                + " that was parted, 14 LINES passed over for their name, 15 lines PUT, 16 bytes of the LINE.");
         Subject x = Subject.after(".rm 5", "aa bb cc dd", ".nf", ".ce 3", "", "x");
         Check.same("CENTRED", x.count(8), 2);
         Check.same("FILL", x.count(11), 0);

@@ -2,7 +2,8 @@
 public final class DemeritsTest {
     private static final long WORST = 10001L * 10001;
     /** In ROOM 13: a word that fills it, words with BADNESS 29, a word with SLACK 1, one that is too long. */
-    private static final String ZERO = "zzzzzzzzzzzzz", ONE = "aa bb cc dd", TWO = "tttttttttttt", LONG = "llllllllllllll";
+    private static final String ZERO = "zzzzzzzzzzzzz", ONE = "aa bb cc dd", TWO = "tttttttttttt",
+        LONG = "llllllllllllll";
 
     public static void main(String[] args) {
         squares();
@@ -101,7 +102,8 @@ public final class DemeritsTest {
     }
 
     private static void hyphenAndKind() {
-        Check.sentence("3000 more if it ends with a - of a hyphen point; 10000 more if the one before does, too; 5000 more");
+        Check.sentence("3000 more if it ends with a - of a hyphen point; 10000 more if the one before"
+                + " does, too; 5000 more");
         Check.same("all of them", sum(3, "ab^cde^fg"), 1 + 3000 + WORST + 3000 + 10000 + 5000 + 1 + 5000);
     }
 }

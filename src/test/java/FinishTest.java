@@ -80,7 +80,8 @@ public final class FinishTest {
     }
 
     private static void keepsWhatItTells() {
-        Check.sentence("but for THE OUTPUT, the latest PARAGRAPH that was parted, and what count() tells for 13 to 15.");
+        Check.sentence("but for THE OUTPUT, the latest PARAGRAPH that was parted, and what count() tells"
+                + " for 13 to 15.");
         Subject x = Subject.after(".rm 5", ".xx", ".yy", "ab cd ef");
         x.finish();
         Check.same("lines of the PARAGRAPH", x.count(13), 2);

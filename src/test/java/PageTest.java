@@ -81,6 +81,7 @@ public final class PageTest {
         Check.sentence("A FOOT: 10, the FOOT text, 10, 10.");
         Check.same("two at BOTTOM", Subject.after(".pl 9", ".fo F", ".ls 2", "").body(), "\n\n");
         Check.same("three above BOTTOM", Subject.after(".pl 9", ".fo F", ".ls 3", "").body(), "\n\n\n\nF\n\n");
+        Check.same("the text of now", Subject.after(".pl 8", ".fo F", "", ".fo G", "").body(), "\n\n\nG\n\n");
     }
 
     private static void spacing() {
@@ -175,6 +176,10 @@ public final class PageTest {
         y.wipe();
         y.enter();
         Check.same("page 1000", y.output(), "\n10001000-1000\n\n\n\n\n1000\n\n");
+        Subject w = Subject.after(".pl 8", ".fo #", "", "", ".bp 50", ".pl 9");
+        w.wipe();
+        w.enter();
+        Check.same("THE PAGE, whatever THE NEXT PAGE is", w.output() + w.count(3), "\n\n1\n\n50");
         Subject z = Subject.after(".he" + "#".repeat(97), ".bp 123", "");
         Check.same("97 of them", z.output(), "\n" + "123".repeat(97) + "\n\n\n");
         Subject v = Subject.after(".he \"$ ^", "");

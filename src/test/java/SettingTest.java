@@ -1,3 +1,5 @@
+import java.util.Arrays;
+
 /** Promise 3, enter: TO SET a value, with the default and the bounds of each command. */
 public final class SettingTest {
     public static void main(String[] args) {
@@ -25,8 +27,8 @@ public final class SettingTest {
     }
 
     private static void toSet() {
-        Check.sentence("TO SET a value by a default d and bounds a .. b: without a NUMBER it is d; else with + or - it is"
-                + " more or less by it, else it is it; then it is brought to a .. b.");
+        Check.sentence("TO SET a value by a default d and bounds a .. b: without a NUMBER it is d; else with"
+                + " + or - it is more or less by it, else it is it; then it is brought to a .. b.");
         Check.same("it is d", counted(10, ".pl 50", ".pl"), 24);
         Check.same("more by it", counted(10, ".pl 50", ".pl +10"), 60);
         Check.same("less by it", counted(10, ".pl 50", ".pl -10"), 40);
@@ -46,7 +48,7 @@ public final class SettingTest {
             }
         }
         int mid = (least + most) / 2;
-        String[] atMid = java.util.Arrays.copyOf(before, before.length + 1);
+        String[] atMid = Arrays.copyOf(before, before.length + 1);
         atMid[before.length] = name + " " + mid;
         int[] sums = {mid, most - 1, most, most + 1, mid + 9999};
         for (int sum : sums) {

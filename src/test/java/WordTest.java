@@ -96,7 +96,7 @@ public final class WordTest {
         Check.same("the least for the others", y.body(), "aaaaa bbbb\n         c\n");
         Check.same("ROOM 1", y.facts(1), "1 0 0 0 0 1");
         Check.same("ROOM 80", Subject.parted(".rm 80", "a").line(0, 5), 80);
-        Check.same("as they are at the BREAK", Subject.after("aa bb", ".in 30", ".rm 35", ".br").facts(0), "5 0 0 1 0 5");
+        Check.same("as they are at the BREAK", Subject.parted("aa bb", ".in 30", ".rm 35").facts(0), "5 0 0 1 0 5");
     }
 
     private static void nothingToPart() {
